@@ -157,16 +157,13 @@ public final class HandbagLady {
                 mind.colonel = first;
                 return true;
             default:
-                return letHoursPass(10 * first + second);
+                int n = 10 * first + second;
+                if (n < 1 || n > MOST_HOURS || mind.hour + n > LAST_HOUR) {
+                    return false;
+                }
+                mind.goHours(n);
+                return true;
         }
-    }
-
-    private boolean letHoursPass(int n) {
-        if (n < 1 || n > MOST_HOURS || mind.hour + n > LAST_HOUR) {
-            return false;
-        }
-        mind.goHours(n);
-        return true;
     }
 
     // ---- what there is
@@ -433,7 +430,7 @@ public final class HandbagLady {
             } else if (mind.breath[bearer] == 0) {
                 return n;
             }
-            mind.goHour();
+            mind.goHours(1);
         }
         return NONE;
     }
@@ -506,7 +503,7 @@ public final class HandbagLady {
         think();
         int times = 0;
         for (int k = 1; k <= n; k++) {
-            mind.goHour();
+            mind.goHours(1);
             if (mind.at[bearer] == v) {
                 times++;
             }
@@ -525,7 +522,7 @@ public final class HandbagLady {
         think();
         int times = 0;
         for (int k = 1; k <= n; k++) {
-            mind.goHour();
+            mind.goHours(1);
             if (mind.at[one] == mind.at[other]) {
                 times++;
             }
@@ -549,7 +546,7 @@ public final class HandbagLady {
     public int firstSnap() {
         think();
         for (int n = 1; n <= MOST_HOURS; n++) {
-            mind.goHour();
+            mind.goHours(1);
             if (mind.snapped > 0) {
                 return n;
             }
@@ -566,7 +563,7 @@ public final class HandbagLady {
         startPlaceTally();
         tallyPlaces();
         for (int k = 1; k <= n; k++) {
-            mind.goHour();
+            mind.goHours(1);
             tallyPlaces();
         }
         int place = fullestPlace();
@@ -579,7 +576,7 @@ public final class HandbagLady {
             if (mind.allAtOnePlace()) {
                 return n;
             }
-            mind.goHour();
+            mind.goHours(1);
         }
         return NONE;
     }
@@ -661,7 +658,7 @@ public final class HandbagLady {
             if (mind.isLed(bearer)) {
                 return n;
             }
-            mind.goHour();
+            mind.goHours(1);
         }
         return NONE;
     }
@@ -871,7 +868,7 @@ public final class HandbagLady {
     /** All hours led together in n hours; looks no further once they are as many as the limit. */
     private int ledHoursBelow(int n, int limit) {
         for (int k = 0; k < n && mind.allLedHours() < limit; k++) {
-            mind.goHour();
+            mind.goHours(1);
         }
         return mind.allLedHours();
     }
@@ -941,7 +938,7 @@ public final class HandbagLady {
             if (told[k] != mind.at[bearer]) {
                 return k;
             }
-            mind.goHour();
+            mind.goHours(1);
         }
         return NONE;
     }
@@ -1076,7 +1073,7 @@ public final class HandbagLady {
             boolean asleep = (sleeping >> k & 1) == 1;
             mind.asleep = asleep ? bearer : NONE;
             weight *= asleep ? 1 : t - 1;
-            mind.goHour();
+            mind.goHours(1);
         }
         return weight;
     }
@@ -1144,7 +1141,7 @@ public final class HandbagLady {
             if (mind.at[bearer] == v) {
                 return n;
             }
-            mind.goHour();
+            mind.goHours(1);
         }
         return NEVER;
     }
@@ -1155,7 +1152,7 @@ public final class HandbagLady {
             if (mind.at[one] == mind.at[other]) {
                 return n;
             }
-            mind.goHour();
+            mind.goHours(1);
         }
         return NEVER;
     }
@@ -1384,7 +1381,8 @@ public final class HandbagLady {
         }
 
         private int keeperOfFriend(int b) {
-            return hasBag(friend[b]) ? keeper[friend[b]] : NONE;
+            int other = friend[b];
+            return other >= 0 && other < bags ? keeper[other] : NONE;
         }
 
         /** Where the bag on her arm leads. */
@@ -1412,20 +1410,24 @@ public final class HandbagLady {
 
         private void goHours(int n) {
             for (int k = 0; k < n; k++) {
-                goHour();
+                hour++;
+                for (int l = 0; l < bearers; l++) {
+                    go(l);
+                }
+                growHeld();
+                countSnaps();
             }
         }
 
-        private void goHour() {
-            hour++;
-            for (int l = 0; l < bearers; l++) {
-                go(l);
-            }
+        private void growHeld() {
             for (int b = 0; b < bags; b++) {
                 if (keeper[b] >= 0) {
                     held[b] = Math.min(held[b] + 1, MOST_HELD);
                 }
             }
+        }
+
+        private void countSnaps() {
             for (int l = 0; l < bearers; l++) {
                 if (hasBag(carried[l]) && kind[carried[l]] == CROCODILE && at[l] == colonel) {
                     snapped++;

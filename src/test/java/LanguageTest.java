@@ -9,7 +9,9 @@ import java.util.ArrayList;
 import java.util.Arrays;
 import java.util.HashSet;
 import java.util.List;
+import java.util.Map;
 import java.util.Set;
+import java.util.TreeMap;
 import java.util.TreeSet;
 import java.util.regex.Matcher;
 import java.util.regex.Pattern;
@@ -46,6 +48,7 @@ public final class LanguageTest {
         String source = Files.readString(Path.of("src/main/java/HandbagLady.java"), StandardCharsets.ISO_8859_1);
         text(source);
         lengths(source);
+        depths(source);
         System.out.println(wrong == 0 ? "the rules that are looked at are kept" : wrong + " rules are broken");
         if (wrong != 0) {
             System.exit(1);
@@ -118,6 +121,34 @@ public final class LanguageTest {
             String whole = code.substring(line, code.indexOf('\n', line)).trim();
             must(whole.startsWith("private final ") || whole.equals("past[k] = new Street();"), "rule 12: made in a call: " + whole);
         }
+    }
+
+    /** No method calls itself, over others neither, and calls go at most eight deep. */
+    private static void depths(String source) {
+        Map<String, String> bodies = new TreeMap<>();
+        Matcher head = Pattern.compile("(?m)^( {4}| {8})(?:public|private)[^=;\\n]*?(\\w+)\\([^)]*\\) \\{$").matcher(source);
+        while (head.find()) {
+            int end = source.indexOf("\n" + head.group(1) + "}\n", head.end());
+            must(bodies.put(head.group(2), source.substring(head.end(), end)) == null, "two methods are named " + head.group(2));
+        }
+        for (String name : bodies.keySet()) {
+            int deep = depth(name, bodies, 0);
+            must(deep <= 8, "rule 11: calls of " + name + " go " + deep + " deep");
+        }
+    }
+
+    private static int depth(String name, Map<String, String> bodies, int open) {
+        if (open > 20) {
+            return 20;
+        }
+        int most = 0;
+        Matcher call = Pattern.compile("\\b(\\w+)\\(").matcher(bodies.get(name));
+        while (call.find()) {
+            if (bodies.containsKey(call.group(1))) {
+                most = Math.max(most, depth(call.group(1), bodies, open + 1));
+            }
+        }
+        return most + 1;
     }
 
     /** No method is longer than sixty lines or takes more than seven parameters. */

@@ -390,6 +390,8 @@ public final class PromisesTest {
         due(x.meet(0, 1), x.meet(1, 0), x.meet(0, 2), x.meet(1, 2), 5, 5, 0, 1);
         due(x.meet(0, 0), x.meet(3, 0), x.meet(0, 3), x.meet(-1, 0), x.meet(LEAST, GREATEST), -1, -1, -1, -1, -1);
         due(of("l900;l911;").meet(0, 1), -9);
+        // The sixtieth hour counts.
+        due(of("b357;b377;l055;l646;l019;l259;g10;g01;g02;g13;f11;c4;h02;").meet(2, 3), 60);
         begin(17);
         due(x.company(0, 0), x.company(0, 1), x.company(1, 0), x.company(1, 1), x.company(60, 0), x.company(60, 1), 2, 0, 2, 0, 2, 4);
         due(x.company(2, 0), x.company(2, 1), 1, 0);
@@ -415,6 +417,9 @@ public final class PromisesTest {
         due(second.breathless(0), second.breathless(1), second.breathless(-1), 5, 9, 0);
         second = of("b390;l050;l050;g01;h04;b390;g10;");
         due(second.breathless(0), second.breathless(1), second.breathless(-1), 9, 5, 1);
+        // One led to where she is keeps her last breath.
+        HandbagLady still = of("b390;l050;g00;h08;b090;g10;l050;g01;");
+        due(still.bearerOf(0, 4), still.breathless(0), still.breathless(1), still.breathless(-1), 1, -9, 9, 1);
     }
 
     private static void snaps() {
@@ -712,6 +717,7 @@ public final class PromisesTest {
     private static void gatheringBestHabitFarthest() {
         begin(42);
         due(of("l940;l949;l906;").gathering(), of("l440;l449;l446;").gathering(), of(FREE).gathering(), -9, 5, 0);
+        due(of("b432;b337;b485;b411;l058;l026;l063;g20;g11;g32;f21;c9;").gathering(), 60);
         due(new HandbagLady().gathering(), of("l000;l005;").gathering(), of("l001;l001;").gathering(), 0, 5, 0);
         begin(43);
         HandbagLady x = of("b053;l090;g00;b000;");
