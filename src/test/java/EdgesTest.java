@@ -1,0 +1,13 @@
+/** Every sentence of the document that names an edge has a test of its own here, which names its promise and quotes it. */
+public final class EdgesTest {
+    public static void main(String[] args) {
+        TermsEdges.all();
+        MindEdges.all();
+        LaterEdges.all();
+        RefusalEdges.all();
+        Edges.everyRefusal();
+        if (!Edges.allHeld()) {
+            System.exit(1);
+        }
+    }
+}
