@@ -169,6 +169,13 @@ final class LaterEdges extends Edges {
         edge(31, swap, "of several the first", () -> due(of("b050;l000;l900;l900;g00;").swap(9), of("b050;l900;l900;l000;l700;g02;").swap(9), 1, 2));
         edge(31, swap, "fewest: a later one, if it is fewer", () -> due(of("b150;l000;l600;l900;g00;").swap(9), 2));
         edge(31, swap, "held of these 0", () -> due(of("b150;l700;l800;g00;h05;").swap(3), of("b150;l700;l700;g00;h05;").swap(3), of("b150;l700;l500;g00;h05;").swap(1), 1, 1, 1));
+        edge(31, swap, "held of these 0: of the one that goes to the lesser, too", () ->
+                due(of("b150;l800;l700;g01;h05;").swap(3), of("b150;b130;l700;l600;g00;g11;h05;").swap(1), 1, 1));
+        edge(31, swap, "held of the others as it is", () -> none(of("b150;l000;l000;l700;g02;h05;").swap(2)));
+        edge(31, swap, "a pair's friend has another bearer then: who follows her is out of breath behind 9 hours", () -> {
+            HandbagLady x = of("b314;b490;l874;l249;g00;g11;f01;");
+            due(x.swap(9), x.swap(10), x.swap(15), -9, 1, 1);
+        });
         edge(31, swap, "none in 0 hours", () -> none(of("b050;l200;l600;g00;").swap(0)));
         edge(31, swap, "none of one or of nobody", () -> none(of("b050;l200;g00;").swap(60), new HandbagLady().swap(60)));
         edge(31, swap, "in mind: all have what they had", () -> {
@@ -181,6 +188,7 @@ final class LaterEdges extends Edges {
     private static void heirAndStrongest() {
         String heir = "HEIR: the BEARER without a BAG with the greatest WILL, of several the least; -9.";
         edge(32, heir, "of several the least", () -> due(of("b000;l900;l700;l700;g00;").heir(0), of("l000;l900;l900;").heir(0), 1, 1));
+        edge(32, heir, "the first, if her will is the greatest", () -> due(of("l900;l100;").heir(0), of("l500;l400;l300;l200;l100;").heir(0), 0, 0));
         edge(32, heir, "will 0 is one", () -> due(of("l000;").heir(0), of("b000;l900;l000;l000;g00;").heir(0), 0, 1));
         edge(32, heir, "all have one", () -> none(of("b000;l900;g00;").heir(0)));
         edge(32, heir, "there is nobody", () -> none(new HandbagLady().heir(0)));
@@ -238,7 +246,7 @@ final class LaterEdges extends Edges {
 
     private static void tamedAndUnled() {
         String tamed = "TAMED: the greatest FIGURE (0 .. 9) of a BAG with which she who has it is not LED now; -9 none, nobody has it.";
-        edge(40, tamed, "9, the greatest", () -> due(of("b000;l900;g00;").tamed(0), of("b300;l400;g00;").tamed(0), 9, 9));
+        edge(40, tamed, "9, the greatest", () -> due(of("b000;l900;g00;").tamed(0), of("b300;l400;g00;").tamed(0), of("b300;l900;g00;").tamed(0), 9, 9, 9));
         edge(40, tamed, "0, the least", () -> due(of("b050;l000;g00;").tamed(0), of("b290;l400;g00;").tamed(0), of("b190;l200;g00;h02;").tamed(0), 0, 0, 0));
         edge(40, tamed, "as great a pull as her will is not led", () -> due(of("b090;l300;g00;").tamed(0), of("b590;l600;g00;").tamed(0), of("b590;l700;g00;").tamed(0), 3, 3, 3));
         edge(40, tamed, "none: led by figure 0, too", () -> none(of("b290;l300;g00;").tamed(0), of("b190;l200;g00;h03;").tamed(0), of("b490;b000;l100;l000;g00;g11;f01;").tamed(0)));
@@ -251,7 +259,10 @@ final class LaterEdges extends Edges {
         String unled = "UNLED: the most BEARERS who can have a BAG, each another one, whose PULL (HELD 0, no FRIENDS) is not above their WILL.";
         edge(41, unled, "not above: as great is enough, one more is not", () -> due(of("b050;l500;").unled(), of("b050;l400;").unled(), 1, 0));
         edge(41, unled, "each another one: two can't have one bag", () -> due(of("b000;l900;l900;").unled(), of("b000;b000;b000;l900;").unled(), 1, 1));
-        edge(41, unled, "held 0, no friends", () -> due(of("b150;l500;g00;h60;").unled(), of("b450;b090;l500;l000;g11;f01;").unled(), 1, 1));
+        edge(41, unled, "held 0, no friends", () -> {
+            due(of("b150;l500;g00;h60;").unled(), of("b450;b090;l500;l000;g11;f01;").unled(), 1, 1);
+            due(of("b150;l400;g00;h60;").unled(), of("b450;b090;l400;l000;g11;f01;").unled(), of("b510;l100;").unled(), of("b510;l200;").unled(), 0, 0, 0, 1);
+        });
         edge(41, unled, "all five, each by just as much", () -> due(of("b050;b040;b030;b020;b010;b000;l000;l100;l200;l300;l400;").unled(), 5));
         edge(41, unled, "the most: she with the great will leaves the small pull", () -> due(of("b050;b030;l500;l300;").unled(), of("b030;b050;l300;l500;").unled(), 2, 2));
         edge(41, unled, "a pull that is too great for all is left aside", () -> due(of("b290;b050;l900;l500;").unled(), of("b050;b290;l500;l900;").unled(), 1, 1));
@@ -279,6 +290,7 @@ final class LaterEdges extends Edges {
         edge(43, best, "of several the least: 1 up by 1 .. 5, 1 down by 6 .. 9", () -> due(of("b053;l090;g00;").bestHabit(0, 1), of("b053;l000;g00;").bestHabit(0, 9), 1, 6));
         edge(43, best, "9 is looked at, too: by it alone", () -> due(of("b053;l094;g00;").bestHabit(0, 9), 9));
         edge(43, best, "0 is looked at, too: by it alone", () -> due(of("b053;l055;g00;").bestHabit(0, 0), of("b053;l045;g00;").bestHabit(0, 0), 0, 0));
+        edge(43, best, "sooner by one hour is sooner", () -> due(of("b390;l030;g00;").bestHabit(0, 2), 2));
         edge(43, best, "never: a crocodile's goal is no habit", () -> none(of("b204;l000;g00;").bestHabit(0, 7)));
         edge(43, best, "nobody has it", () -> none(of("b053;l090;").bestHabit(0, 0), of("b053;b053;l090;g10;").bestHabit(0, 0)));
         edge(43, best, "in mind: its habit stays", () -> {

@@ -1,3 +1,5 @@
+import java.util.function.ToLongFunction;
+
 /** The edges that part II. names: hours in mind, which bag brings whom where, rows, arms, sleep and lots. */
 final class MindEdges extends Edges {
     // With will 0 and want 5 led to and fro between 0 and 1 by a frame: out of breath behind 9, 13 and 17 hours.
@@ -53,7 +55,70 @@ final class MindEdges extends Edges {
             due(x.behind(0, 9, 2), x.behind(0, 10, 2), x.behind(0, 11, 2), x.behind(0, 14, 2), 9, 9, 10, 12);
         });
         edge(15, on, "hours at the goal are", () -> due(of(LED).behind(0, 2, 2), of(LED).behind(0, 9, 2), 2, 9));
+        fromNowOn();
         edge(15, on, "no bag: no pull", () -> none(of(FREE).behind(0, 0, 3), of("b090;l940;").behind(0, 60, 3)));
+    }
+
+    // Four who are led by bags of many kinds, all of them on their way.
+    private static final String MANY = "b154;b296;b390;b497;b582;l070;l340;l225;l893;g00;g11;g22;g33;f34;c2;h05;";
+
+    private static void fromNowOn(int promise, String title, ToLongFunction<HandbagLady> question) {
+        edge(promise, "In mind, n HOURS on (0 .. 60)", title + ": from now on, whatever was asked before", () -> {
+            long first = question.applyAsLong(of(MANY));
+            HandbagLady x = of(MANY);
+            x.sleep(0, 0, 8, 2, 0);
+            due(question.applyAsLong(x), first);
+            x.lots(3, 7, 0);
+            due(question.applyAsLong(x), first);
+            x.defy(2, 9, 60);
+            due(question.applyAsLong(x), question.applyAsLong(x), first, first);
+            alike(x, of(MANY));
+        });
+    }
+
+    private static void fromNowOn() {
+        fromNowOn(15, "behind(), at", x -> x.behind(0, 1, 0));
+        fromNowOn(15, "behind(), hours led", x -> x.behind(2, 20, 2));
+        fromNowOn(16, "meet()", x -> x.meet(0, 2));
+        fromNowOn(17, "company(), how many", x -> x.company(1, 0));
+        fromNowOn(17, "company(), the place", x -> x.company(0, 1));
+        fromNowOn(18, "breathless()", x -> x.breathless(2));
+        fromNowOn(18, "breathless(), who first", x -> x.breathless(-1));
+        fromNowOn(19, "snaps()", x -> x.snaps(20, 0));
+        fromNowOn(19, "snaps(), the colonel", x -> x.snaps(6, 1));
+        fromNowOn(19, "snaps(), the least led", x -> x.snaps(20, 2));
+        fromNowOn(20, "bestBag()", x -> x.bestBag(2, 7, 0));
+        fromNowOn(20, "bestBag(), when", x -> x.bestBag(2, 4, 1));
+        fromNowOn(21, "hers()", x -> x.hers(0) + 100 * x.hers(3));
+        fromNowOn(22, "errand()", x -> x.errand(3, 1));
+        fromNowOn(23, "defy()", x -> x.defy(0, 7, 9));
+        fromNowOn(24, "given()", x -> x.given(0, 2, -1) * 100 + x.given(0, 2, 3));
+        fromNowOn(25, "quiet()", x -> x.quiet(20, -1) * 100 + x.quiet(20, 2));
+        fromNowOn(27, "whose()", x -> {
+            x.clear();
+            x.row(x.bearerOf(0, 2));
+            return x.whose(0, 0) + x.clear();
+        });
+        fromNowOn(28, "nextTell()", x -> x.nextTell(0, 2, 0) * 10 + x.nextTell(0, 2, 1));
+        fromNowOn(29, "arm()", x -> x.arm(1, 3, 2) * 100 + x.arm(3, 1, 0));
+        fromNowOn(30, "sleep()", x -> x.sleep(0, 4, 2, 3, 0));
+        fromNowOn(31, "swap()", x -> x.swap(11));
+        fromNowOn(34, "tired()", x -> x.tired(0));
+        fromNowOn(35, "visits()", x -> x.visits(2, 1, 20));
+        fromNowOn(36, "together()", x -> x.together(0, 2, 20));
+        fromNowOn(37, "rests()", x -> x.rests(2, 20));
+        fromNowOn(38, "firstSnap()", x -> x.firstSnap());
+        fromNowOn(39, "busy()", x -> x.busy(3, 0) * 100 + x.busy(3, 1));
+        fromNowOn(40, "tamed()", x -> x.tamed(0));
+        fromNowOn(42, "gathering()", x -> x.gathering());
+        fromNowOn(43, "bestHabit()", x -> x.bestHabit(0, 6));
+        fromNowOn(44, "farthest()", x -> x.farthest(0, 0) * 10 + x.farthest(0, 1));
+        fromNowOn(46, "judge()", x -> {
+            x.row(x.bearerOf(2, 2));
+            x.row(9);
+            return x.judge(2);
+        });
+        fromNowOn(48, "lots()", x -> x.lots(2, 5, 0) * 1000 + x.lots(2, 5, 1));
     }
 
     private static void meetAndCompany() {
@@ -69,6 +134,12 @@ final class MindEdges extends Edges {
         String company = "COMPANY: behind n how many are AT the PLACE AT which most are; that PLACE, of several the least.";
         edge(17, company, "of several the least: 3, 5 and 7", () -> due(of("l997;l993;l995;").company(0, 0), of("l997;l993;l995;").company(0, 1), 1, 3));
         edge(17, company, "of several the least: 0 and 9", () -> due(of("l999;l900;").company(0, 1), of("l999;l900;l909;").company(0, 1), 0, 9));
+        edge(17, company, "each of 0 .. 9 is looked at", () -> {
+            for (int v = 0; v <= 9; v++) {
+                HandbagLady x = of("l9" + v + v + ";l9" + v + v + ";l9" + (v + 9) % 10 + (v + 9) % 10 + ";");
+                due(x.company(0, 0), x.company(0, 1), 2, v);
+            }
+        });
         edge(17, company, "behind 0 and behind 60 hours", () -> {
             HandbagLady x = of("l940;l940;l949;l988;");
             due(x.company(0, 0), x.company(0, 1), x.company(60, 0), x.company(60, 1), 2, 0, 3, 4);
@@ -86,6 +157,8 @@ final class MindEdges extends Edges {
         edge(18, first, "breath 1 is not 0", () -> none(of("b390;l050;l900;g00;h08;g01;").breathless(0)));
         String who = "who is so first, of several the least; -9.";
         edge(18, who, "two in one hour: the lesser", () -> due(of("b390;b390;l900;l050;l050;g01;g12;").breathless(-1), 1));
+        edge(18, who, "the least there is: 0", () -> due(of(TO_AND_FRO).breathless(-1), of("b390;b390;l050;l050;g00;g11;").breathless(-1), 0, 0));
+        edge(18, who, "breath 1 is not 0", () -> due(of("b390;l050;l900;g00;h08;g01;").breathless(-1), of("b390;b390;l050;l900;g00;h08;g01;l050;g12;").breathless(-1), -9, 2));
         edge(18, who, "the greater, sooner by some hours", () -> due(of("b390;b390;l050;l050;g01;h04;g10;").breathless(-1), 1));
         edge(18, who, "who is so now", () -> due(of("l900;" + "b390;l050;g01;h09;").breathless(-1), 1));
         edge(18, who, "nobody ever", () -> none(of(FREE + LED.replace("g00", "g01")).breathless(-1)));
@@ -123,6 +196,10 @@ final class MindEdges extends Edges {
         edge(20, best, "the last of six", () -> {
             HandbagLady x = of("b052;b052;b052;b052;b052;b054;l000;");
             due(x.bestBag(0, 4, 0), x.bestBag(0, 4, 1), 5, 4);
+        });
+        edge(20, best, "sooner by one hour is sooner", () -> {
+            HandbagLady x = of("b054;b504;b054;l000;");
+            due(x.bestBag(0, 4, 0), x.bestBag(0, 4, 1), 1, 3);
         });
         edge(20, best, "by none ever", () -> none(of("b052;b054;l000;").bestBag(0, 7, 0), of("b052;b054;l000;").bestBag(0, 7, 1)));
         edge(20, best, "without bags by none, though she is there", () -> none(of(FREE).bestBag(0, 0, 0), of(FREE).bestBag(0, 0, 1)));
@@ -217,6 +294,10 @@ final class MindEdges extends Edges {
             HandbagLady x = of("b052;b058;b094;b058;l000;l066;");
             due(x.given(0, 1, -1), x.given(0, 1, 0), x.given(0, 1, 1), 2, 1, 3);
         });
+        edge(24, which, "sooner by one hour is sooner", () -> {
+            HandbagLady x = of("b592;l050;l025;");
+            due(x.given(0, 1, -1), x.given(0, 1, 0), x.given(0, 1, 1), 2, -9, 0);
+        });
         edge(24, which, "behind 60 hours, the last", () -> due(of(AT_SIXTY).given(0, 1, -1), 60));
         edge(24, which, "behind 61, too late", () -> {
             HandbagLady x = of(AT_SIXTY_ONE);
@@ -252,6 +333,10 @@ final class MindEdges extends Edges {
             HandbagLady x = of("b050;b090;l400;l600;l000;");
             due(x.quiet(10, -1), x.quiet(10, 0), x.quiet(10, 1), x.quiet(10, 2), 10, 1, 0, -9);
         });
+        edge(25, quiet, "one hour fewer is fewer", () -> {
+            HandbagLady x = of("b150;l300;l500;");
+            due(x.quiet(5, -1), x.quiet(5, 0), x.quiet(5, 1), 4, -9, 0);
+        });
         edge(25, quiet, "of several the first", () -> {
             HandbagLady x = of("b000;b000;b000;l000;l000;");
             due(x.quiet(10, -1), x.quiet(10, 0), x.quiet(10, 1), 0, 0, 1);
@@ -272,6 +357,8 @@ final class MindEdges extends Edges {
     private static void stable() {
         String bearers = "STABLE: BEARERS would rather have less PULL (HELD 0, no FRIENDS; of several the least BAG),";
         edge(26, bearers, "held 0", () -> due(of("b130;b050;l200;l900;g00;h60;").stable(0), of("b130;b050;l200;l900;g00;h60;").stable(1), 0, 1));
+        edge(26, bearers, "held 0: as great a pull as a plain bag's", () -> due(of("b050;b150;l200;l900;").stable(0), of("b150;b050;l200;l900;").stable(0),
+                of("b060;b150;b050;l200;l900;").stable(0), 0, 0, 1));
         edge(26, bearers, "no friends", () -> due(of("b440;b050;b000;l200;l900;g20;f02;").stable(1), of("b440;b050;b000;l200;l900;l900;g20;f02;").stable(2), 0, 1));
         edge(26, bearers, "of several the least bag", () ->
                 due(of("b050;b050;b050;l200;l300;").stable(0), of("b050;b050;b050;l200;l300;").stable(1), 0, 1));
@@ -320,6 +407,8 @@ final class MindEdges extends Edges {
         String tell = "NEXT TELL: the PLACE for the COLONEL by which AT of a BEARER behind n HOURS by her BAG's KINDS is most unlike, of several the least; how many.";
         edge(28, tell, "behind 0 hours all is alike: 0, and 1", () -> due(of("b093;l000;g00;c7;").nextTell(0, 0, 0), of("b093;l000;g00;c7;").nextTell(0, 0, 1), 0, 1));
         edge(28, tell, "1, 2, 3 and 4 alike: the least", () -> due(of("b093;l000;g00;").nextTell(0, 1, 0), of("b093;l000;g00;").nextTell(0, 1, 1), 1, 4));
+        edge(28, tell, "each place is counted once, 0 only if she may be there", () ->
+                due(of("b005;l955;g00;").nextTell(0, 0, 1), of("b009;l999;g00;").nextTell(0, 60, 1), of("b095;l055;g00;").nextTell(0, 1, 1), 1, 1, 2));
         edge(28, tell, "behind 60 hours, by a bag that never leads", () ->
                 due(of("b003;l900;g00;c7;").nextTell(0, 60, 0), of("b003;l900;g00;c7;").nextTell(0, 60, 1), 0, 6 - 4));
         edge(28, "(1; without a BAG 0, 1)", "without a bag", () -> {
@@ -333,6 +422,8 @@ final class MindEdges extends Edges {
         edge(29, arm, "0 hours: the place of the first", () -> due(of("l952;l957;").arm(0, 1, 0), of("l952;l957;").arm(1, 0, 0), 2, 7));
         edge(29, arm, "60 hours", () -> due(of("l952;l957;").arm(0, 1, 60), of("l952;l927;").arm(1, 0, 60), 5, 2));
         edge(29, arm, "all others stay", () -> due(of("b494;b000;l033;l000;l988;g00;g12;f01;").arm(0, 1, 2), of("b494;b000;l033;l000;l958;g00;g12;f01;").arm(0, 1, 60), 5, 8));
+        edge(29, arm, "a pair's friend on the other's arm is where they are from the first hour on", () ->
+                due(of("b494;b004;l033;l000;g00;g11;f01;").arm(0, 1, 1), of("b494;b004;l033;l000;g00;g11;f01;").arm(0, 1, 5), 3, 3));
         edge(29, arm, "held as now: a widow's never leads more", () -> due(of("b150;l595;l595;g00;").arm(0, 1, 60), of("b150;l595;l595;g00;h01;").arm(0, 1, 60), 9, 0));
         edge(29, arm, "breath aside: out of breath they go", () -> due(of("b390;b095;l050;l900;g00;h09;g10;").arm(0, 1, 1), of("b390;l050;l900;g00;h09;").arm(0, 1, 1), 2, 0));
         edge(29, arm, "breath aside: farther than breath goes", () -> due(of("b595;l000;l000;g00;").arm(0, 1, 60), 5));

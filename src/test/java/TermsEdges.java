@@ -109,6 +109,11 @@ final class TermsEdges extends Edges {
             due(x.bagOf(0, 3), x.bagOf(1, 3), -9, -9);
         });
         edge(4, "HELD (HOURS its bearer has had it, 0 .. 99; 0 at first)", "0 at first", () -> due(of("b100;").bagOf(0, 4), 0));
+        edge(4, "HELD (HOURS its bearer has had it, 0 .. 99; 0 at first)", "0 at first of one that comes where an image had none", () -> {
+            HandbagLady x = new HandbagLady();
+            x.image();
+            due(told(x, "b100;b000;l900;g00;f01;h07;"), x.restore(), x.bag(1, 0, 0), x.bagOf(0, 3), x.bagOf(0, 4), x.bagOf(0, 5), 6, 0, 0, -9, 0, -9);
+        });
         edge(4, "HELD (HOURS its bearer has had it, 0 .. 99; 0 at first)", "0 when it is given, 1 behind an hour", () -> {
             HandbagLady x = of("b100;l900;h07;g00;");
             due(x.bagOf(0, 4), x.hours(1), x.bagOf(0, 4), 0, 0, 1);
