@@ -31,6 +31,9 @@ public final class HandbagLady {
     private static final int NONE = -9;
     // Later than every hour that is looked at, so that a way that never leads there comes last.
     private static final int NEVER = MOST_HOURS + 1;
+    // More hours or snaps than there can be, so that whatever is counted first is fewer.
+    private static final int MORE_THAN_ANY = 1000000;
+    private static final int ALL_BUT_THE_SIGN = 2147483647;
 
     private static final int NOBODY = -1;
     private static final int OTHER = -2;
@@ -459,7 +462,7 @@ public final class HandbagLady {
 
     private int whereColonel(int n) {
         int best = 0;
-        int fewest = Integer.MAX_VALUE;
+        int fewest = MORE_THAN_ANY;
         for (int v = 0; v < PLACES; v++) {
             think();
             mind.colonel = v;
@@ -804,7 +807,7 @@ public final class HandbagLady {
             think();
             for (int l = 0; l < mind.bearers; l++) {
                 seed = seed * 1103515245 + 12345;
-                mind.want[l] = (seed & Integer.MAX_VALUE) / 65536 % PLACES;
+                mind.want[l] = (seed & ALL_BUT_THE_SIGN) / 65536 % PLACES;
             }
             mind.goHours(WEEK_HOURS);
             sum += what == 0 ? mind.allLedHours() : mind.snapped;
@@ -851,7 +854,7 @@ public final class HandbagLady {
             return refuse(STATE);
         }
         ways.start(now.bags, now.bearers);
-        int fewest = Integer.MAX_VALUE;
+        int fewest = MORE_THAN_ANY;
         for (int code = 0; code < ways.codes; code++) {
             if (ways.decode(code)) {
                 thinkGiven();

@@ -113,7 +113,7 @@ public final class LanguageTest {
         Matcher library = Pattern.compile("\\b(System|Math|Integer|Long|Arrays|String|StringBuilder|List|ArrayList)\\b(\\.\\w+)?").matcher(code);
         while (library.find()) {
             must(List.of("System.arraycopy", "Math.min", "Math.max", "Math.abs", "Math.floorMod", "Math.floorDiv", "Integer.compare",
-                    "Integer.bitCount", "Integer.MAX_VALUE").contains(library.group()), "rule 4: " + library.group());
+                    "Integer.bitCount").contains(library.group()), "rule 4: " + library.group());
         }
         Matcher made = Pattern.compile("\\bnew \\w+").matcher(code);
         while (made.find()) {

@@ -396,6 +396,13 @@ final class LaterEdges extends Edges {
                     4000000000000000001L, 4000000000000000002L, 4000000000000000004L, 4000000000000000006L);
             due(x.count(11), x.count(12), x.count(14), x.count(16), 1, 1, 1, 1);
         });
+        String order = "(the call answers the number, the first that fits in the order in which it tells them;";
+        edge(51, order, "four that fit at once, then three, two and one", () -> {
+            HandbagLady x = of(FREE);
+            due(x.sleep(1, 10, -1, 21, 2), x.sleep(0, 0, -1, 21, 2), x.sleep(0, 0, 8, 21, 2), x.sleep(0, 0, 8, 20, 2), x.sleep(0, 0, 8, 20, 1),
+                    LONG_REFUSAL + 1, LONG_REFUSAL + 4, LONG_REFUSAL + 6, LONG_REFUSAL + 2, 1);
+            due(x.count(11), x.count(12), x.count(13), x.count(14), x.count(16), 1, 1, 0, 1, 1);
+        });
         String nobody = "-1 NOBODY: no such BAG, BEARER, PLACE, one twice.";
         refused(9, nobody, "no such bag", -1, "b000;", x -> x.friends(0, 1));
         refused(8, nobody, "no such bearer", -1, "b000;l000;", x -> x.gives(0, 1));

@@ -365,6 +365,13 @@ final class MindEdges extends Edges {
         String bags = "BAGS rather less WILL (of several the least BEARER):";
         edge(26, bags, "of several the least bearer", () -> due(of("b050;l300;l300;").stable(0), of("b050;l300;l300;").stable(1), 0, -9));
         edge(26, bags, "will 0 and will 9", () -> due(of("b090;b000;l900;l000;").stable(0), of("b090;b000;l900;l000;").stable(1), 0, 1));
+        String turns = "by turns BEARERS ask BAGS in their order, BAGS keep whom they would rather:";
+        edge(26, turns, "five and six, each the other way round", () -> {
+            HandbagLady x = of("b050;b040;b030;b020;b010;b000;l400;l300;l200;l100;l000;");
+            due(x.stable(0), x.stable(1), x.stable(2), x.stable(3), x.stable(4), 1, 2, 3, 4, 5);
+        });
+        edge(26, turns, "who asked first is left, if another one has less will", () ->
+                due(of("b000;b090;l900;l800;").stable(0), of("b000;b090;l900;l800;").stable(1), 1, 0));
         String ith = "the i-th one's BAG; -9.";
         edge(26, ith, "no bag is left", () -> none(of("b000;l900;l000;").stable(0)));
         edge(26, ith, "there are no bags", () -> none(of(FREE).stable(0)));
@@ -541,6 +548,8 @@ final class MindEdges extends Edges {
             alike(x, of("b204;l933;g00;"));
         });
         edge(48, lots, "without bearers", () -> due(new HandbagLady().lots(20, 5, 0), new HandbagLady().lots(20, 5, 1), 0, 0));
+        edge(48, "how many HOURS LED of all together; SNAPS.", "of two", () ->
+                due(of("b290;b090;l050;l000;g00;g11;c5;").lots(1, 0, 0), of("b200;b200;l900;l901;g00;g11;").lots(1, 0, 1), 48, 25));
         String draws = "DRAWS: z becomes z times 1103515245 plus 12345 (an int, wrapping); a DRAW below n is (z without its sign's bit, over 65536, cut) modulo n.";
         for (int z : new int[] {LEAST, -65537, -2, -1, 0, 1, 2, 65535, 1103515245, GREATEST - 1, GREATEST}) {
             edge(48, draws, "seed " + z, () -> drawnWants(z));

@@ -220,6 +220,12 @@ final class TermsEdges extends Edges {
     }
 
     private static void hourOfHers() {
+        edge(13, "An HOUR: HOUR is 1 more;", "0 to 1, 998 to 999, and without bearers", () -> {
+            HandbagLady x = new HandbagLady();
+            due(x.hours(1), x.count(2), x.hours(60), x.count(2), 0, 1, 0, 61);
+            HandbagLady y = of("h60;".repeat(16) + "h38;");
+            due(y.count(2), y.hours(1), y.count(2), 998, 0, 999);
+        });
         String rest = "with BREATH 0 she rests (BREATH is 3 then);";
         edge(13, rest, "she stays where she is, and has breath 3", () ->
                 due(at(TO_AND_FRO + "h09;"), breath(TO_AND_FRO + "h09;"), at(TO_AND_FRO + "h10;"), breath(TO_AND_FRO + "h10;"), 1, 0, 1, 3));
