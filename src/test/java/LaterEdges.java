@@ -291,6 +291,10 @@ final class LaterEdges extends Edges {
         edge(43, best, "9 is looked at, too: by it alone", () -> due(of("b053;l094;g00;").bestHabit(0, 9), 9));
         edge(43, best, "0 is looked at, too: by it alone", () -> due(of("b053;l055;g00;").bestHabit(0, 0), of("b053;l045;g00;").bestHabit(0, 0), 0, 0));
         edge(43, best, "sooner by one hour is sooner", () -> due(of("b390;l030;g00;").bestHabit(0, 2), 2));
+        edge(43, best, "behind 58 hours, by all alike: 0", () -> {
+            HandbagLady x = of("b425;b347;l140;l126;g00;g11;f10;");
+            due(x.bestHabit(0, 1), x.visits(0, 1, 57), x.visits(0, 1, 58), 0, 0, 1);
+        });
         edge(43, best, "never: a crocodile's goal is no habit", () -> none(of("b204;l000;g00;").bestHabit(0, 7)));
         edge(43, best, "nobody has it", () -> none(of("b053;l090;").bestHabit(0, 0), of("b053;b053;l090;g10;").bestHabit(0, 0)));
         edge(43, best, "in mind: its habit stays", () -> {

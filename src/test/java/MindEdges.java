@@ -201,6 +201,11 @@ final class MindEdges extends Edges {
             HandbagLady x = of("b054;b504;b054;l000;");
             due(x.bestBag(0, 4, 0), x.bestBag(0, 4, 1), 1, 3);
         });
+        // No bag is known to bring anybody anywhere for the first time behind 59 hours or more: 58 is as near to 60 as it goes.
+        edge(20, best, "behind 57 hours, by a frame", () -> {
+            HandbagLady x = of("b385;l004;");
+            due(x.bestBag(0, 9, 0), x.bestBag(0, 9, 1), 0, 57);
+        });
         edge(20, best, "by none ever", () -> none(of("b052;b054;l000;").bestBag(0, 7, 0), of("b052;b054;l000;").bestBag(0, 7, 1)));
         edge(20, best, "without bags by none, though she is there", () -> none(of(FREE).bestBag(0, 0, 0), of(FREE).bestBag(0, 0, 1)));
         String gives = "BEST BAG for one (what she has now nobody has then, who had that one has none):";
@@ -232,6 +237,7 @@ final class MindEdges extends Edges {
         String errand = "ERRAND: were v her WANT: the first n (0 .. 60) behind which she is AT v; -9;";
         edge(22, errand, "0: she is there", () -> due(of(FREE).errand(0, 0), of(LED).errand(0, 0), 0, 0));
         edge(22, errand, "5, the farthest, and round over 0", () -> due(of(FREE).errand(0, 5), of(FREE).errand(0, 9), of("l907;").errand(0, 1), 5, 1, 4));
+        edge(22, errand, "behind 58 hours, led by a pair behind a frame", () -> due(of("b463;b392;l269;l371;g00;g11;f01;").errand(0, 6), 58));
         edge(22, errand, "never: led elsewhere", () -> none(of(LED).errand(0, 7), of(LED).errand(0, 3)));
         edge(22, errand, "were it: her want stays", () -> {
             HandbagLady x = of(FREE);
