@@ -63,16 +63,20 @@ final class MindEdges extends Edges {
     private static final String MANY = "b154;b296;b390;b497;b582;l070;l340;l225;l893;g00;g11;g22;g33;f34;c2;h05;";
 
     private static void fromNowOn(int promise, String title, ToLongFunction<HandbagLady> question) {
+        fromNowOn(promise, title, MANY, question);
+    }
+
+    private static void fromNowOn(int promise, String title, String letters, ToLongFunction<HandbagLady> question) {
         edge(promise, "In mind, n HOURS on (0 .. 60)", title + ": from now on, whatever was asked before", () -> {
-            long first = question.applyAsLong(of(MANY));
-            HandbagLady x = of(MANY);
+            long first = question.applyAsLong(of(letters));
+            HandbagLady x = of(letters);
             x.sleep(0, 0, 8, 2, 0);
             due(question.applyAsLong(x), first);
             x.lots(3, 7, 0);
             due(question.applyAsLong(x), first);
-            x.defy(2, 9, 60);
+            x.defy(0, 9, 60);
             due(question.applyAsLong(x), question.applyAsLong(x), first, first);
-            alike(x, of(MANY));
+            alike(x, of(letters));
         });
     }
 
@@ -89,8 +93,8 @@ final class MindEdges extends Edges {
         fromNowOn(19, "snaps(), the least led", x -> x.snaps(20, 2));
         fromNowOn(20, "bestBag()", x -> x.bestBag(2, 7, 0));
         fromNowOn(20, "bestBag(), when", x -> x.bestBag(2, 4, 1));
-        fromNowOn(21, "hers()", x -> x.hers(0) + 100 * x.hers(3));
-        fromNowOn(22, "errand()", x -> x.errand(3, 1));
+        fromNowOn(21, "hers()", "b100;l990;g00;", x -> x.hers(0));
+        fromNowOn(22, "errand()", "b000;l900;g00;", x -> x.errand(0, 4));
         fromNowOn(23, "defy()", x -> x.defy(0, 7, 9));
         fromNowOn(24, "given()", x -> x.given(0, 2, -1) * 100 + x.given(0, 2, 3));
         fromNowOn(25, "quiet()", x -> x.quiet(20, -1) * 100 + x.quiet(20, 2));
@@ -100,16 +104,16 @@ final class MindEdges extends Edges {
             return x.whose(0, 0) + x.clear();
         });
         fromNowOn(28, "nextTell()", x -> x.nextTell(0, 2, 0) * 10 + x.nextTell(0, 2, 1));
-        fromNowOn(29, "arm()", x -> x.arm(1, 3, 2) * 100 + x.arm(3, 1, 0));
+        fromNowOn(29, "arm()", "l940;l955;", x -> x.arm(0, 1, 1));
         fromNowOn(30, "sleep()", x -> x.sleep(0, 4, 2, 3, 0));
         fromNowOn(31, "swap()", x -> x.swap(11));
         fromNowOn(34, "tired()", x -> x.tired(0));
         fromNowOn(35, "visits()", x -> x.visits(2, 1, 20));
-        fromNowOn(36, "together()", x -> x.together(0, 2, 20));
+        fromNowOn(36, "together()", "l940;l949;", x -> x.together(0, 1, 6));
         fromNowOn(37, "rests()", x -> x.rests(2, 20));
-        fromNowOn(38, "firstSnap()", x -> x.firstSnap());
+        fromNowOn(38, "firstSnap()", "b204;l902;g00;", x -> x.firstSnap());
         fromNowOn(39, "busy()", x -> x.busy(3, 0) * 100 + x.busy(3, 1));
-        fromNowOn(40, "tamed()", x -> x.tamed(0));
+        fromNowOn(40, "tamed()", "b150;l700;g00;h01;", x -> x.tamed(0));
         fromNowOn(42, "gathering()", x -> x.gathering());
         fromNowOn(43, "bestHabit()", x -> x.bestHabit(0, 6));
         fromNowOn(44, "farthest()", x -> x.farthest(0, 0) * 10 + x.farthest(0, 1));
