@@ -3,6 +3,7 @@ import java.nio.charset.StandardCharsets;
 import java.nio.file.Files;
 import java.nio.file.Path;
 import java.util.ArrayList;
+import java.util.Arrays;
 import java.util.HashSet;
 import java.util.List;
 import java.util.Set;
@@ -24,6 +25,10 @@ abstract class Edges {
     // Promise and number of each refusal, and of each -9, that some test has asked for.
     private static final Set<String> asked = new TreeSet<>();
     private static final String doc = readDoc();
+    // Of each letter of the document, whether some test quotes it.
+    private static final boolean[] quoted = new boolean[doc.length()];
+    // What tells no promise: headings, fences, how a call is written, the numbers of the parts.
+    private static final Pattern NO_SENTENCE = Pattern.compile("(?m)^## .*$|```(?:text)?|^`[^`]*`|==== [IV]+\\.");
     private static int tests = 0;
     private static int promise = 0;
     private static String name = "";
@@ -210,14 +215,49 @@ abstract class Edges {
         System.out.println(name + ": " + why);
     }
 
+    /** That every sentence of the document, from "Terms" on, is quoted by some test. */
+    static void everySentence() {
+        Matcher other = NO_SENTENCE.matcher(doc);
+        while (other.find()) {
+            Arrays.fill(quoted, other.start(), other.end(), true);
+        }
+        int from = Math.max(0, doc.indexOf("## Terms"));
+        int to = Math.max(from, doc.indexOf("## Not promised"));
+        StringBuilder rest = new StringBuilder();
+        for (int k = from; k < to; k++) {
+            rest.append(quoted[k] ? '\n' : doc.charAt(k));
+        }
+        for (String words : rest.toString().split("\n")) {
+            if (words.matches(".*\\w.*")) {
+                name = "\"" + words.trim() + "\"";
+                fail("no test quotes it");
+                failed.add(name);
+            }
+        }
+    }
+
     private static boolean stands(String sentence) {
-        return doc.isEmpty() || section(promise).contains(sentence) || section(0).contains(sentence);
+        boolean there = quote(sentence, section(promise), begins(promise));
+        return quote(sentence, section(0), 0) || there || doc.isEmpty();
+    }
+
+    /** Whether it stands in this part, which begins at a place of the document; notes which letters it quotes. */
+    private static boolean quote(String sentence, String part, int begins) {
+        int found = sentence.isEmpty() ? -1 : part.indexOf(sentence);
+        for (int k = found; k >= 0; k = part.indexOf(sentence, k + 1)) {
+            Arrays.fill(quoted, begins + k, begins + k + sentence.length(), true);
+        }
+        return found >= 0;
+    }
+
+    private static int begins(int number) {
+        return number == 0 ? 0 : doc.indexOf("## Promise " + number + ":");
     }
 
     /** A promise's part of the document; 0: all ahead of the promises. */
     private static String section(int number) {
-        int from = number == 0 ? 0 : doc.indexOf("## Promise " + number + ":");
-        int to = doc.indexOf("## Promise " + (number + 1) + ":");
+        int from = begins(number);
+        int to = begins(number + 1);
         return from < 0 ? "" : doc.substring(from, to < 0 ? doc.indexOf("## Not promised") : to);
     }
 

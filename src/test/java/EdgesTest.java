@@ -6,6 +6,7 @@ public final class EdgesTest {
         LaterEdges.all();
         RefusalEdges.all();
         Edges.everyRefusal();
+        Edges.everySentence();
         if (!Edges.allHeld()) {
             System.exit(1);
         }

@@ -400,7 +400,7 @@ final class LaterEdges extends Edges {
                     4000000000000000001L, 4000000000000000002L, 4000000000000000004L, 4000000000000000006L);
             due(x.count(11), x.count(12), x.count(14), x.count(16), 1, 1, 1, 1);
         });
-        String order = "(the call answers the number, the first that fits in the order in which it tells them;";
+        String order = "REFUSALS (the call answers the number, the first that fits in the order in which it tells them;";
         edge(51, order, "four that fit at once, then three, two and one", () -> {
             HandbagLady x = of(FREE);
             due(x.sleep(1, 10, -1, 21, 2), x.sleep(0, 0, -1, 21, 2), x.sleep(0, 0, 8, 21, 2), x.sleep(0, 0, 8, 20, 2), x.sleep(0, 0, 8, 20, 1),

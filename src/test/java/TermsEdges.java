@@ -160,7 +160,7 @@ final class TermsEdges extends Edges {
     }
 
     private static void pulls() {
-        edge(4, "BAG FIGURE;", "figures 0 and 9, however long it is held", () ->
+        edge(4, "PULL of a BAG: BAG FIGURE;", "figures 0 and 9, however long it is held", () ->
                 due(pull("b000;"), pull("b090;"), pull("b090;l900;g00;h60;h60;"), 0, 9, 9));
         edge(4, "WIDOW's HELD more;", "held 0: its figure", () -> due(pull("b100;"), pull("b190;"), 0, 9));
         edge(4, "WIDOW's HELD more;", "held 99, the most", () -> due(pull("b190;l900;g00;h60;h39;"), pull("b190;l900;g00;h60;h60;"), 108, 108));
