@@ -52,7 +52,8 @@ public final class CallsTest {
         boolean wild = object % 3 == 0;
         List<String> log = new ArrayList<>();
         for (int k = 0; k < CALLS; k++) {
-            Method m = calls.get(draw(calls.size()));
+            // Every second object has one call that comes oftener, so that what it fills gets full.
+            Method m = calls.get(object % 2 == 1 && draw(4) > 0 ? object / 2 % calls.size() : draw(calls.size()));
             Object[] with = new Object[m.getParameterCount()];
             for (int p = 0; p < with.length; p++) {
                 with[p] = number(wild);
